@@ -391,11 +391,13 @@ public final class LentStairs {
         }
         ahead.copy(state);
         int last = lastDayAhead();
+        boolean changed = true;
         for (int day = state.today(); day <= last; day++) {
-            if (!ahead.isHeld(realm, tower)) {
+            if (changed && !ahead.isHeld(realm, tower)) {
                 return day;
             }
-            ahead.passDay(realm.bends);
+            // who stands where is changed by the end of a LOAN alone
+            changed = ahead.passDay(realm.bends) > 0;
         }
         return NONE;
     }
@@ -696,7 +698,7 @@ public final class LentStairs {
         /** The number that stands here; NONE, with a FAULT, if there is none. */
         private int numberHere() {
             if (kind != NUMBER) {
-                failHere();
+                fail(NO_TEXT, start);
                 return NONE;
             }
             if (stop - start > DIGITS_MOST) {
@@ -902,7 +904,7 @@ public final class LentStairs {
 
         private boolean readWood() {
             tape.advance();
-            int tower = takeTower();
+            int tower = takeTower(NONE);
             if (tower == NONE || !takeWord(W_COSTS)) {
                 return false;
             }
@@ -921,7 +923,7 @@ public final class LentStairs {
                 return false;
             }
             int place = tape.start;
-            int tower = takeTower();
+            int tower = takeTower(NONE);
             if (tower == NONE) {
                 return false;
             }
@@ -938,7 +940,7 @@ public final class LentStairs {
             if (!takeNewName(TOWERS_MOST + realm.guards) || !takeWord(W_OF)) {
                 return false;
             }
-            int tower = takeTower();
+            int tower = takeTower(NONE);
             if (tower == NONE || !takeWord(W_LEGS)) {
                 return false;
             }
@@ -961,7 +963,7 @@ public final class LentStairs {
                 return false;
             }
             int place = tape.start;
-            int tower = takeTower();
+            int tower = takeTower(NONE);
             if (tower == NONE) {
                 return false;
             }
@@ -971,19 +973,8 @@ public final class LentStairs {
             if (!takeWord(W_TO)) {
                 return false;
             }
-            place = tape.start;
-            int to = takeTower();
-            if (to == NONE) {
-                return false;
-            }
-            if (to == tower) {
-                return tape.fail(NO_NAME, place);
-            }
-            return readTerms(tower, step, to);
-        }
-
-        private boolean readTerms(int tower, int step, int to) {
-            if (!takeWord(W_DAYS)) {
+            int to = takeTower(tower);
+            if (to == NONE || !takeWord(W_DAYS)) {
                 return false;
             }
             int days = takeNumber(1, MOST_99);
@@ -1079,12 +1070,13 @@ public final class LentStairs {
             return true;
         }
 
-        private int takeTower() {
+        /** The TOWER named here, another than one; NONE with a FAULT. */
+        private int takeTower(int other) {
             if (!canBeName()) {
                 return NONE;
             }
             int tower = towerNamedHere();
-            if (tower == NONE) {
+            if (tower == NONE || tower == other) {
                 tape.fail(NO_NAME, tape.start);
                 return NONE;
             }
@@ -1752,6 +1744,7 @@ public final class LentStairs {
             long sum = 0;
             long best = 0;
             int firstDay = then.today();
+            countAll(realm, then);
             for (int day = firstDay; day <= lastDay; day++) {
                 int value = valueThen(realm, then);
                 sum += value;
@@ -1762,7 +1755,10 @@ public final class LentStairs {
                 if (value != 0 && (verb == LAST || found == NONE)) {
                     found = day;
                 }
-                then.passDay(realm.bends);
+                // a DAY on which no LOAN ENDS changes PURSES alone
+                if (then.passDay(realm.bends) > 0) {
+                    countAll(realm, then);
+                }
             }
             switch (verb) {
                 case FIRST:
@@ -1775,11 +1771,14 @@ public final class LentStairs {
             }
         }
 
-        private int valueThen(Realm realm, State then) {
+        private void countAll(Realm realm, State then) {
             heldThen = then.heldTowers(realm);
             lentThen = then.openLoans();
             bentThen = then.bentSteps();
             yardThen = then.stepsInYards();
+        }
+
+        private int valueThen(Realm realm, State then) {
             int top = 0;
             for (int i = 0; i < size; i++) {
                 int part = -1 - code[i];
