@@ -8,6 +8,7 @@ public final class PromiseTest {
     private static final String PLAIN = "tower a steps 5; tower b steps 4; tower c steps 3;";
 
     public static void main(String[] args) {
+        newObject();
         tape();
         realmWholes();
         realmWords();
@@ -42,6 +43,25 @@ public final class PromiseTest {
 
     private static void due(String what, boolean got, boolean want) {
         Check.due(what, got, want);
+    }
+
+    private static void newObject() {
+        LentStairs x = new LentStairs();
+        due("fault ahead of any", x.fault(0), 0);
+        due("place ahead of any", x.fault(1), NONE);
+        for (int what = 0; what < 10; what++) {
+            due("new has " + what, x.has(what), what == 4 ? 99 : 0);
+        }
+        for (int what = 0; what < 4; what++) {
+            due("new status " + what, x.status(what), 0);
+        }
+        due("no image", x.octet(0), NONE);
+        due("no rescue needed", x.rescue(NONE, 0), 0);
+        due("no tower", x.tower(0, 0), NONE);
+        due("no guard", x.guard(0, 0), NONE);
+        due("nothing to undo", x.undo(), false);
+        due("days go by", x.go(1), 0);
+        Check.asks(x, "first all", 1);
     }
 
     private static void tape() {
@@ -233,6 +253,10 @@ public final class PromiseTest {
         due("cost", x.tower(0, 1), 1);
         due("stand", x.tower(0, 2), 3);
         due("enemies", x.odds(0), NONE);
+        due("an enemy of 6", Check.realm(x, "enemy 6 odds 1; tower z steps 3;"), 2);
+        due("an enemy of 6", x.odds(0), 1000);
+        due("he is gone", Check.realm(x, "tower z steps 3;"), 1);
+        due("he is gone", x.odds(0), NONE);
         due("empty", Check.realm(x, ""), 0);
         due("towers", x.has(0), 0);
         LentStairs y = Check.of("tower a steps 3; loan 3 of a to b days 1 rent 0;"
@@ -548,6 +572,9 @@ public final class PromiseTest {
         due("top missing, no guards", x.need(1, NONE), 0);
         due("lend the top", x.lend(0, 7, 1, 1, 0), 1);
         due("need the top", x.need(0, 0), 7);
+        LentStairs high = Check.of("tower a steps 14; tower b steps 3; guard g of a legs 6 rope 0;"
+                + "loan 14 of a to b days 1 rent 0;");
+        due("need the 14th", high.need(0, 0), 14);
         LentStairs y = Check.of("tower a steps 3; tower b steps 3; guard g of a legs 1 rope 0;"
                 + "loan 1 of a to b days 9 rent 0; loan 2 of b to a days 9 rent 0;");
         due("filled", y.step(0, 1, 2), 1);
@@ -699,6 +726,16 @@ public final class PromiseTest {
         x.back(0);
         due("rents", x.rents(0, 2), 0);
         due("lost", x.lost(0), NONE);
+        LentStairs late = Check.of("tower a steps 3; tower b steps 3; guard g of b legs 1 rope 0; gap 1 of b;");
+        for (int i = 0; i < 9; i++) {
+            late.go(100);
+        }
+        late.go(98);
+        due("lend on day 998", late.lend(0, 1, 1, 1, 0), 0);
+        due("lost on the last day", late.lost(1), 999);
+        due("undo", late.undo(), true);
+        due("lend on day 998", late.lend(0, 1, 1, 2, 0), 0);
+        due("not within 999 days", late.lost(1), NONE);
     }
 
     private static void questions() {
@@ -826,5 +863,13 @@ public final class PromiseTest {
         }
         x.image();
         due("day", x.octet(0) * 256 + x.octet(1), 301);
+        LentStairs y = Check.of("tower a steps 14; tower b steps 14; tower c steps 14; tower d steps 14;");
+        for (int i = 0; i < 24; i++) {
+            due("lend", y.lend(i % 2, 1 + i / 2, 3, 1 + i, i), i);
+        }
+        due("the longest image", y.image(), 2 + 4 * 18 + 1 + 24 * 8 + 1);
+        due("its last loan", y.octet(266), 0);
+        due("its check", y.octet(267) >= 0, true);
+        due("behind", y.octet(268), NONE);
     }
 }
