@@ -1,11 +1,33 @@
 import java.nio.charset.StandardCharsets;
+import java.util.Set;
+import java.util.TreeSet;
 
 /** What all tests share: texts fed to an object, answers compared. */
 final class Check {
     private static int wrong = 0;
     private static int calls = 0;
+    private static int sentences = 0;
+    private static String sentence = "";
+    private static final Set<String> PARTS_TOLD = new TreeSet<>();
 
     private Check() {
+    }
+
+    /** The sentence of the document that the answers asked for from here on come from. */
+    static void says(String part, String words) {
+        sentence = "";
+        due("the document's " + part + " says '" + words + "'", Document.says(part, words), true);
+        sentence = "[" + part + ": " + words + "] ";
+        sentences++;
+        PARTS_TOLD.add(part);
+    }
+
+    /** Each of these parts of the document has been told by says. */
+    static void told(String... parts) {
+        sentence = "";
+        for (String part : parts) {
+            due("a test of the document's " + part, PARTS_TOLD.contains(part), true);
+        }
     }
 
     static void due(String what, long got, long want) {
@@ -13,7 +35,7 @@ final class Check {
         if (got != want) {
             wrong++;
             if (wrong <= 50) {
-                System.out.println(what + ": answered " + got + ", due is " + want);
+                System.out.println(sentence + what + ": answered " + got + ", due is " + want);
             }
         }
     }
@@ -23,7 +45,8 @@ final class Check {
     }
 
     static void finish() {
-        System.out.println(calls + " answers, " + wrong + " not as due");
+        String from = sentences == 0 ? "" : " by " + sentences + " sentences of the document";
+        System.out.println(calls + " answers" + from + ", " + wrong + " not as due");
         if (wrong != 0) {
             System.exit(1);
         }
