@@ -12,6 +12,7 @@ public final class ActBoundaryTest {
         lowestFilled();
         loansOfAll();
         toldLoansFirst();
+        askedWithAllLoans();
         daysOver();
         givenBack();
         bendings();
@@ -158,6 +159,54 @@ public final class ActBoundaryTest {
         }
         due("a 25th", x.lend(2, 1, 1, 1, 0), NONE);
         due("the last one's TOWER", x.loan(23, 0), 2);
+    }
+
+    /** All that looks at LOANS one by one, with as many as there can be: each open, then each ENDED. */
+    private static void askedWithAllLoans() {
+        says("II", "24 of all");
+        LentStairs x = Check.of("tower a steps 14;tower b steps 14;tower c steps 14;tower d steps 14;bends 1;enemy 1 odds 1;"
+                + "guard g of a legs 1 rope 0;guard h of b legs 6 rope 0;guard i of d legs 6 rope 6;");
+        for (int i = 0; i < 24; i++) {
+            due("LOAN", x.lend(i < 13 ? 0 : 1, i < 13 ? i + 2 : i - 12, i < 13 ? 3 : 2, 9, 1), i);
+        }
+        due("open ones", x.has(3), 24);
+        due("all in yards", x.has(8), 24);
+        due("FILLED by none", x.step(0, 1, 2), NONE);
+        due("LENT by none", x.step(0, 1, 3), NONE);
+        due("LENT by the last", x.step(1, 11, 3), 23);
+        due("behind the last", x.loan(24, 0), NONE);
+        due("back behind the last", x.back(24), false);
+        due("rents of a", x.rents(0, 10), 13 * 9);
+        due("rents of c", x.rents(2, 10), -11 * 9);
+        due("NETTED", x.netted(), 24);
+        due("RING", x.ring(), 0);
+        due("fewest", x.blame(0, 0), 13);
+        due("bits", x.blame(0, 1), (1 << 13) - 1);
+        due("sets", x.blame(0, 2), 1);
+        due("fewest of the longer legs", x.blame(1, 0), 1);
+        due("LEAST WOOD", x.wood(0), NONE);
+        due("NEED of a", x.need(0, NONE), 13);
+        due("NEED of b", x.need(1, NONE), 1);
+        due("SPARE of d", x.spare(3, NONE), 11);
+        due("RESCUE", x.rescue(NONE, 0), 14);
+        due("the last of it", x.rescue(13, 0), 3);
+        due("ODDS", x.odds(0), 0);
+        due("LOST", x.lost(0), 0);
+        Check.asks(x, "total lent + yard", 24 * 9 * 2);
+        Check.asks(x, "most bent", 24);
+        due("IMAGE", x.image(), 268);
+        due("go", x.go(9), 24);
+        due("PURSE of a", x.purse(0), 13 * 9);
+        due("open ones", x.has(3), 0);
+        due("in yards", x.has(8), 0);
+        due("BENT", x.has(7), 24);
+        due("LEAST WOOD", x.wood(0), 13);
+        due("blame", x.blame(0, 0), NONE);
+        due("NETTED", x.netted(), 0);
+        due("rents", x.rents(0, 10), 0);
+        due("LENT by none", x.step(1, 11, 3), NONE);
+        due("undone", x.undo(), true);
+        due("open ones", x.has(3), 24);
     }
 
     private static void daysOver() {

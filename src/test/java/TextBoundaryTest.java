@@ -11,6 +11,8 @@ public final class TextBoundaryTest {
         newObject();
         feeding();
         ending();
+        bytesBehindTheEnd();
+        fullTapes();
         statements();
         towers();
         woods();
@@ -30,6 +32,7 @@ public final class TextBoundaryTest {
         wordsSideBySide();
         firstAlong();
         noTextGoesOn();
+        signTooSoon();
         asksNameOrNumber();
         endsTooSoon();
         numbersThatCantBe();
@@ -38,6 +41,7 @@ public final class TextBoundaryTest {
         realmGoes();
         realmStays();
         realmBegins();
+        realmAnew();
         faults();
         Check.told("I", "1", "2", "3", "4", "5");
         Check.finish();
@@ -131,6 +135,53 @@ public final class TextBoundaryTest {
         due("the tape stays", fill(y, 1), 40);
         due("not refused", y.end(40), true);
         due("refused", y.status(0), 6);
+    }
+
+    private static void bytesBehindTheEnd() {
+        says("3", "The tape has its first n bytes alone");
+        String text = "tower abcdef steps 14;";
+        for (int cut = 0; cut <= text.length(); cut++) {
+            LentStairs x = new LentStairs();
+            Check.tape(x, text);
+            due("cut", x.end(cut), true);
+            LentStairs y = new LentStairs();
+            Check.tape(y, text.substring(0, cut));
+            due("realm of the first " + cut, x.realm(), y.realm());
+            due("its FAULT", x.fault(0), y.fault(0));
+            due("its place", x.fault(1), y.fault(1));
+        }
+        LentStairs z = new LentStairs();
+        Check.tape(z, "bends 77;");
+        due("bends 7", z.end(7), true);
+        due("and a sign", z.feed(0x3b202020, 0x20202020, 0x20202020, 0x20202020, 0x20202020), 27);
+        due("realm", z.realm(), 1);
+        due("the second 7 went", z.has(4), 7);
+        Check.tape(z, "total 77");
+        due("total 7", z.end(7), true);
+        due("ask", z.ask(), 707);
+        Check.tape(z, "most days");
+        due("most day", z.end(8), true);
+        due("ask", z.ask(), 100);
+    }
+
+    private static void fullTapes() {
+        says("2", "if there would be more than 1600");
+        String[] last = {"t", "towe", "tower", "bends", "bends 7", "bends 7;", "abcdefgh", "12345", ";", "#"};
+        int[] place = {1599, 1596, 1600, 1600, 1600, NONE, 1592, 1595, 1599, 1599};
+        for (int i = 0; i < last.length; i++) {
+            LentStairs x = new LentStairs();
+            String text = " ".repeat(1600 - last[i].length()) + last[i];
+            due("realm ends with " + last[i], Check.realm(x, text), place[i] == NONE ? 1 : NONE);
+            due("FAULT of " + last[i], x.fault(0), place[i] == NONE ? 0 : 1);
+            due("place of " + last[i], x.fault(1), place[i]);
+        }
+        Check.askFault(new LentStairs(), " ".repeat(1596) + "firs", 1, 1596);
+        Check.askFault(new LentStairs(), " ".repeat(1595) + "first", 1, 1600);
+        Check.askFault(new LentStairs(), "most" + " ".repeat(1594) + "mi", 1, 1598);
+        Check.askFault(new LentStairs(), "most" + " ".repeat(1593) + "min", 1, 1600);
+        Check.asks(new LentStairs(), "most" + " ".repeat(1593) + "day", 100);
+        Check.asks(new LentStairs(), "most" + " ".repeat(1592) + "0007", 7);
+        Check.askFault(new LentStairs(), "most" + " ".repeat(1591) + "00007", 1, 1599);
     }
 
     private static void statements() {
@@ -256,6 +307,7 @@ public final class TextBoundaryTest {
         due("the last one's TOWER", x.guard(7, 0), 1);
         due("the last one's rope", x.guard(7, 2), 6);
         due("behind him", x.guard(8, 0), NONE);
+        due("a TOWER behind them", Check.of(text + "tower h steps 3;").has(0), 3);
         fault(text + "guard h of a legs 1 rope 0;", 5, text.length());
     }
 
@@ -479,6 +531,28 @@ public final class TextBoundaryTest {
         fault("bends 7; ;", 1, 9);
     }
 
+    /** Each STATEMENT cut behind each of its pieces, a sign there; then another STATEMENT, which is not read. */
+    private static void signTooSoon() {
+        says("I", "1 the first byte with which no such text goes on");
+        String[] whole = {"tower c steps 3", "wood a costs 1", "gap 1 of a", "guard g of a legs 1 rope 0",
+            "loan 1 of a to b days 1 rent 0", "bends 1", "enemy 1 odds 1"};
+        for (String statement : whole) {
+            String[] pieces = statement.split(" ");
+            StringBuilder part = new StringBuilder(AB);
+            for (String piece : pieces) {
+                part.append(piece);
+                boolean last = part.length() == AB.length() + statement.length();
+                LentStairs x = new LentStairs();
+                due(part + ";", Check.realm(x, part + ";bends 7;"), last ? 4 : NONE);
+                due("FAULT of " + part + ";", x.fault(0), last ? 0 : 1);
+                due("place of " + part + ";", x.fault(1), last ? NONE : part.length());
+                due("bends", x.has(4), last ? 7 : 99);
+                due("TOWERS", x.has(0) >= 2, last);
+                part.append(' ');
+            }
+        }
+    }
+
     private static void asksNameOrNumber() {
         says("I", "where a NAME is asked, an OWN WORD so, a 7th letter at itself; where a number is asked, a 5th digit at itself;");
         int at = AB.length();
@@ -663,6 +737,121 @@ public final class TextBoundaryTest {
         due("undo", x.undo(), false);
         due("PURSE", x.purse(0), 0);
         due("refusals stay", x.status(3), 2);
+    }
+
+    private static void realmAnew() {
+        says("4", "The tape (it goes) is THE REALM");
+        String all = "tower aa steps 14;tower bb steps 14;tower cc steps 14;tower dd steps 14;wood aa costs 9;wood dd costs 0;bends 1;"
+                + "enemy 1 odds 1;enemy 2 odds 2;enemy 3 odds 3;enemy 4 odds 4;enemy 5 odds 5;enemy 6 odds 6;";
+        StringBuilder many = new StringBuilder(all);
+        for (int i = 0; i < 20; i++) {
+            many.append("gap ").append(i % 5 + 1).append(" of ").append("abcd".charAt(i / 5)).append("abcd".charAt(i / 5)).append(';');
+        }
+        for (int i = 0; i < 12; i++) {
+            many.append("loan ").append(i + 2).append(i < 4 ? " of cc to dd" : " of aa to bb").append(" days 9 rent 9;");
+        }
+        String full = many.toString().replace("loan 2 ", "loan 14 ").replace("loan 3 ", "loan 13 ").replace("loan 4 ", "loan 12 ")
+                .replace("loan 5 ", "loan 11 ");
+        StringBuilder guards = new StringBuilder();
+        for (int i = 0; i < 8; i++) {
+            guards.append("guard g").append((char) ('a' + i)).append(" of dd legs ").append(i % 6 + 1).append(" rope 6;");
+        }
+        String[] others = {"", "tower ga steps 3;", "tower bb steps 3;tower ga steps 4;guard aa of ga legs 1 rope 0;guard gb of bb legs 1 rope 0;",
+            "tower x steps 5;tower y steps 4;gap 1 of x;loan 2 of x to y days 3 rent 4;gap 3 of y;",
+            "tower abcdef steps 3;tower a steps 3;guard b of a legs 2 rope 0;enemy 6 odds 1;"};
+        for (String ahead : new String[] {full, all + guards}) {
+            for (String other : others) {
+                for (int part = 0; part < 4; part++) {
+                    // two REALMS with all there can be, then one or two others: nothing of the first ones may show
+                    LentStairs old = used(ahead);
+                    Check.realm(old, other);
+                    same(old, Check.of(other), part);
+                    LentStairs older = used(ahead);
+                    Check.realm(older, other);
+                    Check.realm(older, other);
+                    same(older, Check.of(other), part);
+                    // and behind one with a FAULT at its end
+                    LentStairs refused = used(ahead);
+                    due("a FAULT", Check.realm(refused, ahead + ";"), NONE);
+                    Check.realm(refused, other);
+                    same(refused, Check.of(other), part);
+                }
+            }
+        }
+    }
+
+    private static LentStairs used(String text) {
+        LentStairs x = Check.of(text);
+        x.go(9);
+        due("once more", Check.realm(x, text) > 0, true);
+        return x;
+    }
+
+    /** One that had other REALMS ahead answers as a new one does; in parts, so that none is used for more than 512 calls. */
+    private static void same(LentStairs old, LentStairs anew, int part) {
+        switch (part) {
+            case 0 -> sameNames(old, anew);
+            case 1 -> sameCounts(old, anew);
+            case 2 -> sameSteps(old, anew);
+            default -> sameReaches(old, anew);
+        }
+    }
+
+    private static void sameNames(LentStairs old, LentStairs anew) {
+        for (int i = 0; i < 9; i++) {
+            for (int k = 0; k < 6; k++) {
+                due("NAME of TOWER " + i, old.letter(0, i, k), anew.letter(0, i, k));
+                due("NAME of GUARD " + i, old.letter(1, i, k), anew.letter(1, i, k));
+            }
+        }
+    }
+
+    private static void sameCounts(LentStairs old, LentStairs anew) {
+        for (int what = 0; what < 10; what++) {
+            due("has " + what, old.has(what), anew.has(what));
+            for (int i = 0; i < 13; i++) {
+                due("LOAN " + i, old.loan(i, what), anew.loan(i, what));
+            }
+        }
+        int size = anew.image();
+        due("IMAGE", old.image(), size);
+        due("its last byte", old.octet(size - 1), anew.octet(size - 1));
+    }
+
+    private static void sameSteps(LentStairs old, LentStairs anew) {
+        for (int t = 0; t < 4; t++) {
+            for (int s = 1; s <= 14; s++) {
+                for (int what = 0; what < 4; what++) {
+                    due("STEP " + s + " of " + t, old.step(t, s, what), anew.step(t, s, what));
+                }
+            }
+        }
+    }
+
+    private static void sameReaches(LentStairs old, LentStairs anew) {
+        for (int t = 0; t < 5; t++) {
+            for (int what = 0; what < 6; what++) {
+                due("TOWER " + t, old.tower(t, what), anew.tower(t, what));
+            }
+            due("ODDS", old.odds(t), anew.odds(t));
+            due("PURSE", old.purse(t), anew.purse(t));
+            due("SPARE", old.spare(t, NONE), anew.spare(t, NONE));
+            due("NEED", old.need(t, NONE), anew.need(t, NONE));
+            due("LOST", old.lost(t), anew.lost(t));
+            due("rents", old.rents(t, 9), anew.rents(t, 9));
+        }
+        for (int g = 0; g < 9; g++) {
+            for (int what = 0; what < 3; what++) {
+                due("GUARD " + g, old.guard(g, what), anew.guard(g, what));
+            }
+            due("blame", old.blame(g, 0), anew.blame(g, 0));
+            due("hops", old.hops(g), anew.hops(g));
+            due("reaches", old.reaches(g, 2), anew.reaches(g, 2));
+            due("wood", old.wood(g), anew.wood(g));
+        }
+        due("RESCUE", old.rescue(NONE, 0), anew.rescue(NONE, 0));
+        due("NETTED", old.netted(), anew.netted());
+        due("RING", old.ring(), anew.ring());
     }
 
     private static void faults() {
