@@ -36,6 +36,7 @@ public final class FaceTest {
 
     public static void main(String[] args) throws Exception {
         face();
+        headings();
         rules();
         for (long seed = 0; seed < 300; seed++) {
             wild(new Random(seed));
@@ -72,7 +73,42 @@ public final class FaceTest {
         for (Class<?> inside : LentStairs.class.getDeclaredClasses()) {
             Check.due(inside + " is static", Modifier.isStatic(inside.getModifiers()), true);
             Check.due(inside + " is not public", Modifier.isPrivate(inside.getModifiers()), true);
+            fields(inside);
         }
+        fields(LentStairs.class);
+    }
+
+    /** Rules 3, 5 and 11: what a class holds, and no static state. */
+    private static void fields(Class<?> owner) {
+        int held = 0;
+        for (Field field : owner.getDeclaredFields()) {
+            Class<?> type = field.getType();
+            if (Modifier.isStatic(field.getModifiers())) {
+                Check.due(field + " is final", Modifier.isFinal(field.getModifiers()), true);
+                Check.due(field + " is a number or a text", type == int.class || type == String.class, true);
+            } else {
+                held++;
+                boolean own = type.getNestHost() == LentStairs.class;
+                Check.due(field + " is of a type that may stand", own || type == int.class || type == int[].class, true);
+                Check.due(field + " is hidden", Modifier.isPrivate(field.getModifiers()), true);
+            }
+        }
+        Check.due(owner + " has at most 20 fields", held <= 20, true);
+    }
+
+    /** What "the interface says" ahead of some of the calls, between the call ahead of it and the one behind. */
+    private static void headings() throws IOException {
+        String source = Files.readString(Path.of("src/main/java/LentStairs.java"));
+        String[][] want = {{"guard", "---- acts", "lend"}, {"undo", "---- who reaches what", "reaches"},
+            {"rescue", "---- enemies, guards held back", "falls"},
+            {"blame", "---- loans netted, wood, days to come", "netted"}, {"ask", "---- images, refusals", "image"}};
+        for (String[] one : want) {
+            Check.says("IV", one[1] + ".");
+            int heading = source.indexOf("// " + one[1] + "\n");
+            Check.due("behind " + one[0], source.indexOf(" " + one[0] + "(") < heading, true);
+            Check.due("ahead of " + one[2], heading < source.indexOf("public int " + one[2] + "("), true);
+        }
+        Check.told("IV");
     }
 
     private static void rules() throws IOException {
